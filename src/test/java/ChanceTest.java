@@ -134,7 +134,7 @@ public final class ChanceTest {
         CHECK.due("himself", x.game(1, 1, 0), BIG + 3);
     }
 
-    /** z = 0: the draws are 1013904223 / 256 = 3960563 and so on; found by hand below. */
+    /** One lot each, its draws told one after another. */
     private static void promise21LotsByHand() {
         BallsAtDodger x = Check.hall("p0p99;p1p00;b00;b10;b21;b31;");
         for (int z = -3; z < 40; z++) {
