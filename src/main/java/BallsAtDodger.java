@@ -203,7 +203,7 @@ public final class BallsAtDodger {
     }
 
     public int two(int one, int other, int whom, int how) {
-        if (!now.isPlayer(one) || !now.isPlayer(other) || !now.isPlayer(whom) || one == other) {
+        if (!now.isPlayer(one) || !now.isPlayer(other) || !now.isPlayer(whom) || isOneTwice(one, other, whom)) {
             return refused(NOBODY);
         }
         if (!isHow(how)) {
@@ -457,6 +457,10 @@ public final class BallsAtDodger {
 
     private static boolean isEnd(int end) {
         return end >= 0 && end < ENDINGS;
+    }
+
+    private static boolean isOneTwice(int one, int other, int whom) {
+        return one == other || one == whom || other == whom;
     }
 
     private static int withinOdds(int odds) {

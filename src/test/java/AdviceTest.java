@@ -9,6 +9,7 @@ public final class AdviceTest {
         promise10Refusals();
         promise11Two();
         promise11Refusals();
+        promise11OneTwice();
         promise12Worth();
         promise12WorthBesideALast();
         promise12Refusals();
@@ -68,16 +69,34 @@ public final class AdviceTest {
         CHECK.due("nobody whom", x.two(0, 1, 5, 0), -1);
         CHECK.due("one twice", x.two(0, 0, 2, 3), -1);
         CHECK.due("how", x.two(0, 1, 2, 3), -2);
-        CHECK.due("how", x.two(0, 1, 0, -1), -2);
+        CHECK.due("how", x.two(0, 1, 2, -1), -2);
+        CHECK.due("how ahead of state", x.two(0, 1, 4, 3), -2);
         CHECK.due("two sides", x.two(0, 2, 3, 0), -3);
         CHECK.due("two sides", x.two(2, 0, 3, 0), -3);
-        CHECK.due("at his own", x.two(0, 1, 0, 0), -3);
         CHECK.due("at his own", x.two(0, 1, 4, 0), -3);
         CHECK.due("the second holds none", x.two(2, 3, 0, 0), -3);
         CHECK.due("the first holds none", x.two(3, 2, 0, 0), -3);
         CHECK.due("one is out", x.two(0, 4, 2, 0), -3);
         Check.tell(x, "o2;");
         CHECK.due("whom is out", x.two(0, 1, 2, 0), -3);
+    }
+
+    private static void promise11OneTwice() {
+        BallsAtDodger x = Check.hall("p0p55;p0p17;p1p33;b00;b11;");
+        String before = Check.readings(x);
+        CHECK.due("one and other", x.two(0, 0, 2, 0), -1);
+        CHECK.due("one and whom", x.two(0, 1, 0, 0), -1);
+        CHECK.due("other and whom", x.two(0, 1, 1, 0), -1);
+        CHECK.due("all three", x.two(1, 1, 1, 0), -1);
+        CHECK.due("all are counted as -1", x.count(11), 4);
+        CHECK.due("one and other ahead of -2", x.two(0, 0, 2, 3), -1);
+        CHECK.due("one and whom ahead of -2", x.two(0, 1, 0, 3), -1);
+        CHECK.due("other and whom ahead of -2", x.two(0, 1, 1, -1), -1);
+        CHECK.due("one and whom ahead of -3", x.two(2, 0, 2, 0), -1);
+        CHECK.due("other and whom ahead of -3", x.two(2, 0, 0, 0), -1);
+        CHECK.due("all are counted as -1", x.count(11) * 100 + x.count(12) * 10 + x.count(13), 900);
+        CHECK.due("nothing else changes", before.equals(Check.readings(x)) ? 1 : 0, 1);
+        CHECK.due("not refused behind that", x.two(0, 1, 2, 0), 1600 - 24 * 28);
     }
 
     private static void promise12Worth() {

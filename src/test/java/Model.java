@@ -1,4 +1,5 @@
 import java.util.ArrayList;
+import java.util.HashSet;
 import java.util.List;
 
 /** The document told a second time, plainly and slowly, for RandomRunsTest. Shares no code with the program. */
@@ -377,7 +378,7 @@ final class Model {
     }
 
     int two(int one, int other, int whom, int how) {
-        if (nobody(one) || nobody(other) || nobody(whom) || one == other) {
+        if (nobody(one) || nobody(other) || nobody(whom) || new HashSet<>(List.of(one, other, whom)).size() < 3) {
             return no(-1);
         }
         if (how < 0 || how > 2) {
