@@ -39,6 +39,9 @@ public final class BallsAtDodger {
     private static final int[] CAUGHT_BY_HOW = {-3, 0, 8};
     private static final int TRY_BONUS = 6;
 
+    /** Every bit of an int but its sign's. */
+    private static final int WITHOUT_SIGN = 0x7fffffff;
+
     private static final int MOST_DUELLERS = 4;
     private static final int MOST_DUEL_THROWS = 9;
 
@@ -368,7 +371,10 @@ public final class BallsAtDodger {
     }
 
     private int refused(int refusal) {
-        refusals[-refusal]++;
+        int kind = -refusal;
+        if (kind > 0 && kind < refusals.length) {
+            refusals[kind]++;
+        }
         return refusal;
     }
 
@@ -440,7 +446,7 @@ public final class BallsAtDodger {
 
     private int draw(int m) {
         seed = seed * 1664525 + 1013904223;
-        return m < 1 ? 0 : (seed & Integer.MAX_VALUE) / 256 % m;
+        return m < 1 ? 0 : (seed & WITHOUT_SIGN) / 256 % m;
     }
 
     private static boolean isSide(int side) {

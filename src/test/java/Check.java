@@ -18,6 +18,10 @@ final class Check {
         }
     }
 
+    void holds(String what, boolean itDoes) {
+        due(what, itDoes ? 1 : 0, 1);
+    }
+
     /** Prints how it went; ends the program with 1 if an answer was wrong. */
     void end() {
         System.out.println(name + ": " + asked + " answers, " + wrong + " wrong");
@@ -35,18 +39,24 @@ final class Check {
         return x;
     }
 
-    /** Tells letters and makes them a hall: what hall() answers. */
-    static int tell(BallsAtDodger x, String letters) {
+    /** Tells letters, none of them a hall yet. */
+    static void letters(BallsAtDodger x, String letters) {
         for (int i = 0; i < letters.length(); i++) {
             x.letter(letters.charAt(i));
         }
+    }
+
+    /** Tells letters and makes them a hall: what hall() answers. */
+    static int tell(BallsAtDodger x, String letters) {
+        letters(x, letters);
         return x.hall();
     }
 
-    /** Lets TENTHS go by until the clock shows as many. */
+    /** Lets TENTHS go by until the clock shows as many; ends, too, if the clock stands still. */
     static void passTo(BallsAtDodger x, int tenth) {
-        while (x.count(3) < tenth) {
-            x.pass(Math.min(50, tenth - x.count(3)));
+        int now = x.count(3);
+        for (int left = 250; left > 0 && now >= 0 && now < tenth; left--) {
+            now = x.pass(Math.min(50, tenth - now));
         }
     }
 

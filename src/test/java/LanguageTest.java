@@ -82,7 +82,7 @@ public final class LanguageTest {
     private static void words(String source) {
         String bare = source.replaceAll("(?s)/\\*.*?\\*/", " ").replaceAll("//[^\n]*", " ").replaceAll("\"[^\"\n]*\"", "#");
         String[] ruledOut = {"\\b(throw|throws|try|catch|finally|synchronized|assert|import|package|protected|volatile|record|var)\\b", "->", "::", "@",
-            "\\bstatic\\s*\\{", "\\b(equals|hashCode|toString|System\\.(?!arraycopy)\\w+|Thread|Object)\\b", "\\b(double|float)\\b", "Exact\\b", "#\\s*\\+|\\+\\s*#"};
+            "\\bstatic\\s*\\{", "\\b(equals|hashCode|toString|System\\.(?!arraycopy)\\w+|Thread|Object)\\b", "\\b(double|float)\\b", "Exact\\b", "\\b(MAX|MIN)_VALUE\\b", "#\\s*\\+|\\+\\s*#"};
         for (String rule : ruledOut) {
             Matcher found = Pattern.compile(rule).matcher(bare);
             CHECK.due("ruled out by " + rule, found.find() ? 1 : 0, 0);
